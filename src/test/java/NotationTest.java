@@ -32,6 +32,7 @@ public final class NotationTest {
         breaks("\u000b5", 0);
         breaks("\f5", 0);
         breaks("\u00005", 0);
+        breaks("5\u0000", 1);
         lies("--x--5", "4@5=5");
         lies("--x\n5--", "4@4=5");
         lies("----5", "4@4=5");
@@ -55,13 +56,16 @@ public final class NotationTest {
         breaks("a-b-", 3);
         breaks("a-b-{", 3);
         breaks("a-b--\nc", 6);
+        lies("zZ-zZ", "5@0");
+        lies("{azAZ z09}", "12@0[1] 5@1[2] 5@6");
         breaks("a_b", 1);
         breaks("a\u00e4", 1);
         breaks("-a", 1);
         breaks("Abc", 0);
         breaks("T", 0);
         for (String kept : new String[] {"BOOLEAN", "MIN", "MAX", "UTF8String", "PrintableString", "IA5String",
-            "NumericString", "VisibleString", "TRUEX", "TRU", "TRUE-1", "True", "NULLS", "FALS"}) {
+            "NumericString", "VisibleString", "TRUEX", "TRU", "TRUE-1", "True", "NULLS", "FALS",
+            "XRUE", "XALSE", "XULL", "Z"}) {
             breaks(kept, 0);
             breaks("{a " + kept + "}", 3);
         }
@@ -269,5 +273,19 @@ public final class NotationTest {
         NotationReader z = Probe.fed("b".repeat(4080));
         probe.due("a long name", 1, z::read);
         probe.due("a long name", true, () -> z.same(0, 0));
+        manyReads();
+    }
+
+    /** What earlier reads said takes no room from later ones. */
+    private static void manyReads() {
+        NotationReader x = new NotationReader();
+        for (int i = 0; i < 5; i++) {
+            Probe.feed(x, "\"" + "c".repeat(1700) + i + "\"");
+            int digit = '0' + i;
+            probe.due("read again", 1, x::read);
+            probe.due("read again", 1701, () -> x.node(0, 3));
+            probe.due("read again", 'c' + 0, () -> x.unit(0, 1699));
+            probe.due("read again", digit, () -> x.unit(0, 1700));
+        }
     }
 }

@@ -212,8 +212,8 @@ public final class PromiseTest {
     }
 
     private static void promise10() {
-        // 0 {, 1 ab, 2 ab :, 3 ab, 4 {, 5 ab, 6 "ab", 7 abc, 8 aB, 9 ac, 10 b
-        NotationReader x = Probe.read("{ab, ab : ab, {ab \"ab\"}, abc, aB, ac, b}");
+        // 0 {, 1 ab, 2 ab :, 3 ab, 4 {, 5 ab, 6 "ab", 7 abc, 8 aB, 9 ac, 10 bb
+        NotationReader x = Probe.read("{ab, ab : ab, {ab \"ab\"}, abc, aB, ac, bb}");
         int[] alike = {1, 2, 3, 5};
         for (int a : alike) {
             for (int b : alike) {
@@ -230,6 +230,7 @@ public final class PromiseTest {
             probe.due("10 over", ILLEGAL, () -> x.same(a, 11));
             probe.due("10 below", ILLEGAL, () -> x.same(-1, a));
         }
+        probe.due("10 what stands behind is no part of it", true, () -> Probe.read("{ab, ab, c}").same(1, 2));
         probe.due("10 range comes first", ILLEGAL, () -> x.same(0, 11));
         probe.due("10 range comes first", ILLEGAL, () -> x.same(-1, 0));
         NotationReader y = Probe.read("{TRUE, FALSE, NULL, 1, '1'B, '1'H, \"a\", {}, {1}, {a 1}, {1 2}}");

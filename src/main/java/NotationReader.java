@@ -449,14 +449,13 @@ public final class NotationReader {
         private void digits(Token token) {
             boolean bitsOnly = true;
             int p = blanksEnd(token.begin + 1);
-            while (p < length && at(p) != '\'') {
-                int c = at(p);
-                if (!isHexDigit(c)) {
-                    return;
-                }
-                bitsOnly = bitsOnly && c <= '1';
-                keep(c);
+            for (int i = 0; i < MOST_BYTES && isHexDigit(at(p)); i++) {
+                bitsOnly = bitsOnly && at(p) <= '1';
+                keep(at(p));
                 p = blanksEnd(p + 1);
+            }
+            if (at(p) != '\'') {
+                return;
             }
             int mark = at(p + 1);
             if (mark == 'H') {

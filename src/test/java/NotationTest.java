@@ -17,14 +17,11 @@ public final class NotationTest {
     }
 
     private static void lies(String text, String layout) {
-        probe.due("<" + text + ">", layout, () -> Probe.layout(Probe.read(text)));
-        probe.due("<" + text + "> place", -1, () -> Probe.read(text).place());
+        probe.lies(text, layout);
     }
 
     private static void breaks(String text, int place) {
-        probe.due("<" + text + ">", "UnsupportedOperationException", () -> Probe.fed(text).read());
-        probe.due("<" + text + "> place", place, () -> Probe.read(text).place());
-        probe.due("<" + text + "> nodes", 0, () -> Probe.read(text).count(1));
+        probe.breaks(text, place);
     }
 
     private static void blanks() {

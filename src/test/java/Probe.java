@@ -20,6 +20,19 @@ final class Probe {
         }
     }
 
+    /** Asks that the text is a VALUE with this layout. */
+    void lies(String text, String layout) {
+        due("<" + text + ">", layout, () -> layout(read(text)));
+        due("<" + text + "> place", -1, () -> read(text).place());
+    }
+
+    /** Asks that the text is no VALUE, broken at this place, and leaves no nodes. */
+    void breaks(String text, int place) {
+        due("<" + text + ">", "UnsupportedOperationException", () -> fed(text).read());
+        due("<" + text + "> place", place, () -> read(text).place());
+        due("<" + text + "> nodes", 0, () -> read(text).count(1));
+    }
+
     void finish() {
         System.out.println(asked + " answers asked for, " + wrong + " not as due");
         if (asked == 0 || wrong != 0) {
@@ -38,13 +51,20 @@ final class Probe {
     /** Puts the text, a char for a byte, behind what the tape has. */
     static void feed(NotationReader reader, String text) {
         byte[] bytes = text.getBytes(StandardCharsets.ISO_8859_1);
-        int before = reader.count(0);
-        for (int i = 0; i < bytes.length; i += 20) {
-            // Near the tape's end twenty bytes no longer fit as they come: such a text can't be fed.
-            reader.feed(word(bytes, i), word(bytes, i + 4), word(bytes, i + 8), word(bytes, i + 12),
-                    word(bytes, i + 16));
+        int odd = bytes.length % 20;
+        // What makes no twenty comes first, so that the tape can be filled to its last byte.
+        if (odd > 0) {
+            int before = reader.count(0);
+            feedTwenty(reader, bytes, 0);
+            reader.end(before + odd);
         }
-        reader.end(before + bytes.length);
+        for (int i = odd; i < bytes.length; i += 20) {
+            feedTwenty(reader, bytes, i);
+        }
+    }
+
+    private static void feedTwenty(NotationReader reader, byte[] bytes, int i) {
+        reader.feed(word(bytes, i), word(bytes, i + 4), word(bytes, i + 8), word(bytes, i + 12), word(bytes, i + 16));
     }
 
     static NotationReader fed(String text) {
